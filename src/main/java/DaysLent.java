@@ -784,8 +784,7 @@ public final class DaysLent {
          */
         int fewestPayments(Ledger ledger) {
             int all = ledger.allPeople();
-            sums[0] = 0;
-            groups[0] = 0;
+            // for nobody both are 0, as they were made
             for (int set = 1; set <= all && set < SETS_OF_PEOPLE; set++) {
                 sumUp(ledger, set);
             }
@@ -839,6 +838,7 @@ public final class DaysLent {
     /** Debts that lead back to a person. */
     private static final class Rings {
         private static final int FAR = 1000;
+        private static final int MORE_THAN_ANY_DEBT = 1000;
 
         /** For each person the fewest debts that lead from it to the one that is asked about. */
         final int[] steps = new int[MOST_PEOPLE];
@@ -861,7 +861,7 @@ public final class DaysLent {
                 return NONE;
             }
             int at = person;
-            int least = Integer.MAX_VALUE;
+            int least = MORE_THAN_ANY_DEBT;
             for (int step = 0; step < MOST_PEOPLE && left > 0; step++) {
                 left--;
                 int debt = firstDebt(ledger, at, left);

@@ -158,9 +158,10 @@ public final class BookTest {
         fault(SIX + eight, DaysLent.NONE);
         fault(SIX + eight + "D", 72);
         fault(two + eight + "P000P000P000P000P", 72);
-        // 80 bytes: the last part wants more than there is room for, and that is set aside
-        fault(two + "x".repeat(72), 8);
-        fault("P100P200P300" + "D01011".repeat(8) + "P000P000P000", DaysLent.NONE);
+        // the longest book is 72 bytes, so what comes behind it is the fault
+        fault("P100P200P300" + eight + "P000P000P000", DaysLent.NONE);
+        fault("P100P200P300" + eight + "P000P000P000PPPPPPPP", 72);
+        fault("P100P200P300" + eight + "P000P000P00", 71);
     }
 
     private static void promise5Book() {
@@ -211,6 +212,9 @@ public final class BookTest {
         x.write(4, Books.packed("P300"));
         check.due("one more", 3, x.book());
         check.due("now there is a cheat", 4, x.cheats());
+        x.wipe();
+        check.due("nobody", 0, x.book());
+        check.due("nobody is alive", 0, x.about(4));
     }
 
     private static void promise6About() {

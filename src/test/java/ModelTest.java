@@ -61,21 +61,34 @@ public final class ModelTest {
     /** Mostly a person that there is. */
     private int who() {
         int people = m.about(0);
-        return random.nextInt(25) == 0 || people == 0 ? upTo(8) - 1 : random.nextInt(people);
+        if (random.nextInt(25) == 0 || people == 0) {
+            return random.nextBoolean() ? upTo(8) - 1 : wild();
+        }
+        return random.nextInt(people);
     }
 
     /** Mostly a number from least to most. */
     private int number(int least, int most) {
-        int chance = random.nextInt(40);
-        if (chance == 0) {
-            return least - 1;
-        }
-        return chance == 1 ? most + 1 : least + upTo(most - least);
+        return switch (random.nextInt(60)) {
+            case 0 -> least - 1;
+            case 1 -> most + 1;
+            case 2 -> wild();
+            default -> least + upTo(most - least);
+        };
+    }
+
+    /** Numbers near the ends of int, powers of two among them, and any others. */
+    private int wild() {
+        return switch (random.nextInt(3)) {
+            case 0 -> Integer.MIN_VALUE + upTo(2) - 1;
+            case 1 -> 1 << upTo(31);
+            default -> random.nextInt();
+        };
     }
 
     /** Mostly a set of people that there are. */
     private int set() {
-        return random.nextInt(20) == 0 ? random.nextInt() >> upTo(31) : random.nextInt(1 << m.about(0));
+        return random.nextInt(20) == 0 ? wild() >> upTo(31) : random.nextInt(1 << m.about(0));
     }
 
     private String randomBook() {
@@ -187,6 +200,8 @@ public final class ModelTest {
             due("day(" + p + ", " + day + ", " + seen + ")", m.day(p, day, seen), x.day(p, day, seen));
             due("cheats()", m.cheats(), x.cheats());
         } else if (kind < 84) {
+            int n = random.nextBoolean() ? wild() : 9 - 9 * upTo(1);
+            due("write(" + n + ", 80L)", m.write(n, 80), x.write(n, 80));
             due("forget()", m.forget(), x.forget());
         } else if (kind < 87) {
             due("keep(" + slot + ")", m.keep(slot), x.keep(slot));
