@@ -4,6 +4,7 @@ import java.lang.reflect.Method;
 import java.lang.reflect.Modifier;
 import java.nio.file.Files;
 import java.nio.file.Path;
+import java.util.ArrayList;
 import java.util.Arrays;
 import java.util.HashSet;
 import java.util.List;
@@ -29,7 +30,9 @@ public final class FaceTest {
         constants();
         methods();
         membersAreHidden();
+        sizes();
         source();
+        methodLengths();
         check.end();
     }
 
@@ -89,10 +92,44 @@ public final class FaceTest {
         }
     }
 
-    private static void source() throws Exception {
+    /** Rules 5 and 11: static fields are final, few fields in a class, few parameters of a method. */
+    private static void sizes() {
+        List<Class<?>> all = new ArrayList<>(List.of(DaysLent.class.getDeclaredClasses()));
+        all.add(DaysLent.class);
+        for (Class<?> one : all) {
+            int fields = 0;
+            for (Field field : one.getDeclaredFields()) {
+                int kind = field.getModifiers();
+                check.isTrue(field + " is final, if static", !Modifier.isStatic(kind) || Modifier.isFinal(kind));
+                fields += Modifier.isStatic(kind) ? 0 : 1;
+            }
+            check.isTrue(one + " has at most some twenty fields", fields <= 20);
+            for (Method method : one.getDeclaredMethods()) {
+                check.isTrue(method + " has at most seven parameters", method.getParameterCount() <= 7);
+            }
+        }
+    }
+
+    private static String withoutComments() throws Exception {
         String path = System.getProperty("dayslent.source", "src/main/java/DaysLent.java");
         String text = Files.readString(Path.of(path));
-        String code = text.replaceAll("(?s)/\\*.*?\\*/", " ").replaceAll("//[^\n]*", " ");
+        return text.replaceAll("(?s)/\\*.*?\\*/", " ").replaceAll("//[^\n]*", " ");
+    }
+
+    /** Rule 11: no method of more than some sixty lines. */
+    private static void methodLengths() throws Exception {
+        Matcher methods = Pattern.compile("(?ms)^( +)[^\n;=]*\\) \\{\n.*?^\\1\\}").matcher(withoutComments());
+        int found = 0;
+        while (methods.find()) {
+            found++;
+            long lines = methods.group().lines().count();
+            check.isTrue(methods.group().lines().findFirst().orElse("").trim() + " is short: " + lines, lines <= 60);
+        }
+        check.isTrue("methods were found", found >= METHODS.size());
+    }
+
+    private static void source() throws Exception {
+        String code = withoutComments();
         for (String word : List.of("throw", "throws", "try", "catch", "synchronized", "assert", "import", "package",
                 "while", "var", "Object", "\\w*Exact")) {
             check.isTrue("no " + word, !Pattern.compile("\\b" + word + "\\b").matcher(code).find());
