@@ -4,7 +4,7 @@ import java.util.HashSet;
 import java.util.List;
 import java.util.Set;
 
-/** A second program for the same document: it tries everything out where DaysLent reckons. */
+/** A second program for the same document: it tries out, as far as it can, what DaysLent reckons. */
 final class Model {
     static final int UNKNOWN = -1, BAD = -2, LATE = -3, FULL = -4, NONE = -9;
 
@@ -438,6 +438,8 @@ final class Model {
 
     // ---- wishes, runs
 
+    private static final double MOST_TRIES = 20000;
+
     private int[] bestShares;
     private int bestPrice;
 
@@ -458,13 +460,43 @@ final class Model {
         shares[p] = 0;
     }
 
-    /** How many shares would be tried: a test asks first. */
-    double sharesToTry(int wisher, int a) {
+    private double sharesToTry(int wisher, int a) {
         double tries = 1;
         for (int p = 0; p < n(); p++) {
             tries *= p == wisher || !w.alive[p] ? 1 : 1 + Math.min(a, w.mornings[p]);
         }
         return tries;
+    }
+
+    private record Shares(int price, int[] by) {
+        boolean isAhead(Shares o) {
+            return o == null || price < o.price || price == o.price && Arrays.compare(by, o.by) < 0;
+        }
+    }
+
+    /** Where all shares are too many to try: for each sum the best shares of the first people, one more at a time. */
+    private void shareBySums(int wisher, int a) {
+        Shares[] best = new Shares[a + 1];
+        best[0] = new Shares(0, new int[n()]);
+        for (int p = 0; p < n(); p++) {
+            Shares[] next = new Shares[a + 1];
+            int most = p == wisher || !w.alive[p] ? 0 : w.mornings[p];
+            for (int sum = 0; sum <= a; sum++) {
+                for (int part = 0; part <= Math.min(most, sum); part++) {
+                    if (best[sum - part] != null) {
+                        int[] by = best[sum - part].by.clone();
+                        by[p] = part;
+                        Shares one = new Shares(best[sum - part].price + (part + 1) / 2 * w.asks[p], by);
+                        next[sum] = one.isAhead(next[sum]) ? one : next[sum];
+                    }
+                }
+            }
+            best = next;
+        }
+        if (best[a] != null) {
+            bestShares = best[a].by;
+            bestPrice = best[a].price;
+        }
     }
 
     private int findShares(int p, int a) {
@@ -478,7 +510,11 @@ final class Model {
             return LATE;
         }
         bestShares = null;
-        share(p, 0, a, 0, new int[n()]);
+        if (sharesToTry(p, a) <= MOST_TRIES) {
+            share(p, 0, a, 0, new int[n()]);
+        } else {
+            shareBySums(p, a);
+        }
         return bestShares == null ? NONE : 0;
     }
 

@@ -5,7 +5,6 @@ public final class ModelTest {
     private static final int RUNS = 600;
     /** Not all 512: a last book and a look at all come behind them. */
     private static final int CALLS = 320;
-    private static final double MOST_TRIES = 20000;
 
     private static final Check check = new Check("ModelTest");
 
@@ -177,10 +176,8 @@ public final class ModelTest {
             due("room(" + p + ")", m.room(p), x.room(p));
         } else if (kind < 68) {
             int a = random.nextInt(3) > 0 ? number(1, 20) : number(1, 99);
-            if (m.sharesToTry(p, a) <= MOST_TRIES) {
-                due("wish(" + p + ", " + a + ")", m.wish(p, a), x.wish(p, a));
-                due("wishBy(" + p + ", " + a + ", " + q + ")", m.wishBy(p, a, q), x.wishBy(p, a, q));
-            }
+            due("wish(" + p + ", " + a + ")", m.wish(p, a), x.wish(p, a));
+            due("wishBy(" + p + ", " + a + ", " + q + ")", m.wishBy(p, a, q), x.wishBy(p, a, q));
         } else if (kind < 73) {
             boolean upper = random.nextBoolean();
             due("run(" + p + ", " + tenths + ", " + upper + ")", m.run(p, tenths, upper), x.run(p, tenths, upper));
